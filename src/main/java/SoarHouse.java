@@ -10,6 +10,8 @@ public final class SoarHouse {
     private static final int HOURS = 6;
     private static final int STEPS_PER_HOUR = 6;
     private static final int MOST_HEIGHT = 40;
+    private static final int DIRECTIONS = 8;
+    private static final int SPEEDS = 3;
     private static final int MOVES = 25;
     private static final int MOST_BYTES = 1900;
     private static final int MOST_LAW_BYTES = 500;
@@ -715,8 +717,8 @@ public final class SoarHouse {
                 }
                 return arrived(cell, moment + 1, circled);
             }
-            int direction = (move - 1) / 3;
-            int speed = (move - 1) % 3;
+            int direction = (move - 1) / SPEEDS;
+            int speed = (move - 1) % SPEEDS;
             int loss = lossOf(glider, hour, direction, speed);
             return arrived(neighbour(cell, direction), moment + 3 - speed, height - loss);
         }
@@ -1259,9 +1261,11 @@ public final class SoarHouse {
      */
     private static final class Flight {
         private static final int STAGES = MOST_TURNS + 1;
+        private static final int A_STEP = STAGES * CELLS;
 
-        private final long[] grid = new long[(STEPS + 1) * STAGES * CELLS];
-        private final int[] losses = new int[MOVES - 1];
+        private final long[] grid = new long[(STEPS + 1) * A_STEP];
+        private final int[] neighbours = new int[CELLS * DIRECTIONS];
+        private final int[] losses = new int[DIRECTIONS * SPEEDS];
         private final int[] moves = new int[STEPS];
         private final Course noCourse = new Course();
         private int moveCount;
@@ -1277,6 +1281,12 @@ public final class SoarHouse {
         private int moment;
         private int height;
         private int finishHeight;
+
+        private Flight() {
+            for (int i = 0; i < neighbours.length; i++) {
+                neighbours[i] = neighbour(i / DIRECTIONS, i % DIRECTIONS);
+            }
+        }
 
         private void forget() {
             known = false;
@@ -1338,7 +1348,7 @@ public final class SoarHouse {
         }
 
         private static int index(int t, int stage, int cell) {
-            return (t * STAGES + stage) * CELLS + cell;
+            return t * A_STEP + stage * CELLS + cell;
         }
 
         private static long heightsUpTo(int height) {
@@ -1367,7 +1377,7 @@ public final class SoarHouse {
             hour = Math.min(t / STEPS_PER_HOUR, HOURS - 1);
             top = plan.topIn(hour);
             for (int i = 0; i < losses.length; i++) {
-                losses[i] = plan.lossOf(glider, hour, i / 3, i % 3);
+                losses[i] = plan.lossOf(glider, hour, i / SPEEDS, i % SPEEDS);
             }
         }
 
@@ -1393,12 +1403,13 @@ public final class SoarHouse {
             if (circling) {
                 grid[index(t + 1, stage, from)] |= circled(heights, plan.gainOf(glider, from, hour));
             }
-            for (int direction = 0; direction < 8; direction++) {
-                int next = neighbour(from, direction);
+            int slowest = Math.max(0, t + 3 - STEPS);
+            for (int direction = 0; direction < DIRECTIONS; direction++) {
+                int next = neighbours[from * DIRECTIONS + direction];
                 if (next != NONE) {
-                    int there = course.roundedIn(next, stage);
-                    for (int speed = Math.max(0, t + 3 - STEPS); speed < 3; speed++) {
-                        grid[index(t + 3 - speed, there, next)] |= heights >>> losses[3 * direction + speed];
+                    int there = index(t + 3, course.roundedIn(next, stage), next);
+                    for (int speed = slowest; speed < SPEEDS; speed++) {
+                        grid[there - speed * A_STEP] |= heights >>> losses[direction * SPEEDS + speed];
                     }
                 }
             }
@@ -1428,7 +1439,9 @@ public final class SoarHouse {
         /** Leaves in the grid only what can still be flown at the soonest moment. */
         private void keepWhatLeadsThere() {
             long finishing = finishing(flown);
-            Arrays.fill(grid, index(flown, 0, 0), index(flown, STAGES, 0), 0);
+            for (int i = index(flown, 0, 0); i < index(flown, STAGES, 0); i++) {
+                grid[i] = 0;
+            }
             grid[index(flown, course.turns(), course.finish())] = finishing;
             for (int t = flown - 1; t >= moment; t--) {
                 readHour(t);
@@ -1445,12 +1458,13 @@ public final class SoarHouse {
 
         private long leading(int t, int stage, int from) {
             long heights = uncircled(grid[index(t + 1, stage, from)], plan.gainOf(glider, from, hour));
-            for (int direction = 0; direction < 8; direction++) {
-                int next = neighbour(from, direction);
+            int slowest = Math.max(0, t + 3 - flown);
+            for (int direction = 0; direction < DIRECTIONS; direction++) {
+                int next = neighbours[from * DIRECTIONS + direction];
                 if (next != NONE) {
-                    int there = course.roundedIn(next, stage);
-                    for (int speed = Math.max(0, t + 3 - flown); speed < 3; speed++) {
-                        heights |= grid[index(t + 3 - speed, there, next)] << losses[3 * direction + speed];
+                    int there = index(t + 3, course.roundedIn(next, stage), next);
+                    for (int speed = slowest; speed < SPEEDS; speed++) {
+                        heights |= grid[there - speed * A_STEP] << losses[direction * SPEEDS + speed];
                     }
                 }
             }
