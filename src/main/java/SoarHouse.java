@@ -78,14 +78,14 @@ public final class SoarHouse {
     private final int[] tape = new int[MOST_BYTES];
     private int bytes;
     private final Tokens tokens = new Tokens(tape);
-    private final PlanReader planReader = new PlanReader(tokens);
     private Plan plan = new Plan();
     private Plan spare = new Plan();
+    private final PlanReader planReader = new PlanReader(tokens, spare);
     private final Law law = new Law(tokens);
     private int faultNumber;
     private int faultPlace = NONE;
     private final Course course = new Course();
-    private final Flight flight = new Flight();
+    private final Flight flight = new Flight(plan, course);
     private final Launches launches = new Launches();
     private final Traces traces = new Traces();
     private final Trace trace = new Trace();
@@ -738,8 +738,9 @@ public final class SoarHouse {
         private final Tokens tokens;
         private Plan plan;
 
-        private PlanReader(Tokens tokens) {
+        private PlanReader(Tokens tokens, Plan plan) {
             this.tokens = tokens;
+            this.plan = plan;
         }
 
         private boolean read(Plan into, int bytes) {
@@ -1282,7 +1283,9 @@ public final class SoarHouse {
         private int height;
         private int finishHeight;
 
-        private Flight() {
+        private Flight(Plan plan, Course course) {
+            this.plan = plan;
+            this.course = course;
             for (int i = 0; i < neighbours.length; i++) {
                 neighbours[i] = neighbour(i / DIRECTIONS, i % DIRECTIONS);
             }

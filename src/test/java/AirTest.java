@@ -11,6 +11,7 @@ public final class AirTest {
         walls();
         circling();
         gliding();
+        allWinds();
         whatIsNone();
         Due.close();
     }
@@ -114,6 +115,24 @@ public final class AirTest {
         Due.is("out of a wall", house.move(0, 26, 3, 40, 9), at(35, 4, 27));
         Due.is("beyond the day, slow", house.move(0, 27, 34, 20, 1), -1);
         Due.is("up to its end, middling", house.move(0, 27, 34, 20, 8), at(20 - 6, 36, 28));
+    }
+
+    private static void allWinds() {
+        String[] names = {"n", "e", "s", "w"};
+        int[] dx = {0, 1, 1, 1, 0, -1, -1, -1};
+        int[] dy = {-1, -1, 0, 1, 1, 1, 0, -1};
+        for (int to = 0; to < 4; to++) {
+            for (int strength = 0; strength < 4; strength++) {
+                SoarHouse house = Due.on("wind 0 " + names[to] + " " + strength + "; glider a sink 1 2 3 5 handicap 90;");
+                Due.is("wind " + names[to], house.wind(5), 4 * strength + to);
+                for (int d = 0; d < 8; d++) {
+                    int along = dx[d] * dx[2 * to] + dy[d] * dy[2 * to];
+                    int loss = Math.max(0, (d % 2 == 0 ? 5 : 7) - strength * along);
+                    Due.is("fast by " + d + " in " + names[to] + strength, house.move(0, 27, 0, 20, 3 + 3 * d),
+                        at(20 - loss, 1, 27 + dx[d] + 8 * dy[d]));
+                }
+            }
+        }
     }
 
     private static void whatIsNone() {

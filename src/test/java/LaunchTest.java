@@ -94,6 +94,7 @@ public final class LaunchTest {
         Due.is("a 31st", house.launch(true, 0), -1);
         Due.is("thirty", house.about(7), 30);
         told(house, 0, 35, 36, 0);
+        told(house, 1, -1, -1, -1);
         told(house, 29, -1, -1, -1);
     }
 }

@@ -87,6 +87,10 @@ public final class LawTest {
         Due.law(house, "score first * 100 + best;");
         Due.is("first and best", house.score(2, 0), 1207);
         Due.is("first and best of nothing", house.score(2, -1), 0);
+        house.task(-1, -1, -1, 1);
+        house.fix(2, 30, 1, 0);
+        Due.is("rounded by its only fix", house.rounded(2, false, 0), 1);
+        Due.is("first is 0 then", house.score(1, 0), 1);
     }
 
     private static void faults() {

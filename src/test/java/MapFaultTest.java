@@ -30,6 +30,10 @@ public final class MapFaultTest {
         good("top 0 1;top 5 40;", 2);
         good("wall 7 7 above 40 from 35 to 36;wall 0 0 above 0 from 0 to 1;", 2);
         good("field 0 0;field 7 7;", 2);
+        good("glider zz sink 1 1 1 1 handicap 99;glider ab sink 1 1 1 1 handicap 99;glider ba sink 1 1 1 1 handicap 99;"
+            + "glider b sink 1 1 1 1 handicap 99;", 4);
+        good("glider aaaaaaaa sink 1 1 1 1 handicap 99;glider aaaaaaab sink 1 1 1 1 handicap 99;"
+            + "glider baaaaaaa sink 1 1 1 1 handicap 99;glider zzzzzzzz sink 1 1 1 1 handicap 99;", 4);
         good("road 0 0 7 7 99;road 7 7 0 0 1;road 0 0 7 7 99;", 3);
         good("glider a sink 0 0 0 0 handicap 50;glider e sink 30 30 30 30 handicap 200;glider abcdefgh sink1 1 1 1 handicap50;", 3);
     }
@@ -92,6 +96,10 @@ public final class MapFaultTest {
         Due.mapFault("field 1 2;field 1 2", 3, 18);
         Due.mapFault(GLIDER + "glider g", 3, 42);
         Due.mapFault("row 1 aaaaaaaa;row 01a", 1, 19);
+        Due.mapFault("row 1 aaaaaaaa;row 2 aaaaaaaa;row 1", 3, 34);
+        Due.mapFault("lift a 1 1 1 1 1 1;lift b 1 1 1 1 1 1;lift a", 3, 43);
+        Due.mapFault("field 1 2;field 2 1;field 1 2", 3, 28);
+        Due.mapFault("glider ba sink 1 1 1 1 handicap 99;" + GLIDER + "glider ba", 3, 77);
     }
 
     private static void cannotBe() {

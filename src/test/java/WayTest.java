@@ -11,8 +11,9 @@ public final class WayTest {
         whatIsNone();
         safe();
         forgets();
+        questionsAlike();
         Random random = new Random(20261118);
-        for (int i = 0; i < 120; i++) {
+        for (int i = 0; i < 40; i++) {
             randomDay(random);
         }
         Due.close();
@@ -111,6 +112,27 @@ public final class WayTest {
         Due.is("by the next map", house.soonest(0, 0, 0, 40, 0), 5);
     }
 
+    /** One question behind another that differs from it in one number alone. */
+    private static void questionsAlike() {
+        String map = "lift a 4 1 4 1 4 1; wind 0 e 1; wind 1 w 1; glider a sink 1 1 2 4 handicap 100;"
+            + "glider b sink 1 2 4 5 handicap 100;";
+        int[] start = {0, 0, 3, 9, 5};
+        int[] other = {1, 1, 5, 19, 15};
+        for (int i = 0; i < start.length; i++) {
+            int[] changed = start.clone();
+            changed[i] = other[i];
+            SoarHouse fresh = Due.on(map);
+            fresh.task(3, -1, -1, 5);
+            int due = fresh.soonest(changed[0], changed[1], changed[2], changed[3], changed[4]);
+            SoarHouse house = Due.on(map);
+            house.task(3, -1, -1, 5);
+            int before = house.soonest(start[0], start[1], start[2], start[3], start[4]);
+            Due.is("they differ " + i, before != due, true);
+            Due.is("changed " + i, house.soonest(changed[0], changed[1], changed[2], changed[3], changed[4]), due);
+            Due.is("back " + i, house.soonest(start[0], start[1], start[2], start[3], start[4]), before);
+        }
+    }
+
     private static String randomMap(Random random) {
         StringBuilder text = new StringBuilder();
         for (int y = 0; y < 8; y++) {
@@ -161,7 +183,7 @@ public final class WayTest {
 
     private static void randomDay(Random random) {
         SoarHouse house = Due.on(randomMap(random));
-        for (int i = 0; i < 4; i++) {
+        for (int i = 0; i < 3; i++) {
             int[] points = new int[random.nextInt(4)];
             for (int p = 0; p < points.length; p++) {
                 points[p] = p > 0 && random.nextInt(5) == 0 ? points[p - 1] : point(random);
