@@ -352,6 +352,7 @@ public final class SoarHouse {
         }
         if (!flight.knows(glider, cell, moment, height, finish)) {
             flight.search(plan, course);
+            flight.walk();
         }
         return flight.flown != NONE;
     }
@@ -424,21 +425,30 @@ public final class SoarHouse {
             at = 0;
             fault = 0;
             faultPlace = NONE;
-            next();
+            start = 0;
+            pass();
         }
 
-        private void next() {
+        /** Takes the token ahead; the next one is ahead then. */
+        private void pass() {
+            takenAt = start;
             while (at < length && (text[at] == ' ' || text[at] == '\n')) {
                 at++;
             }
             start = at;
             value = NONE;
+            int letters = runOf('a', 'z');
+            int digits = runOf('0', '9');
             if (at >= length) {
                 kind = END;
-            } else if (isLetter(at)) {
-                readWord();
-            } else if (isDigit(at)) {
-                readNumber();
+            } else if (letters > 0) {
+                at += letters;
+                kind = letters > LONGEST_WORD ? BAD : WORD;
+                value = knownWord();
+            } else if (digits > 0) {
+                at += digits;
+                kind = digits > LONGEST_NUMBER || runOf('a', 'z') > 0 ? BAD : NUMBER;
+                value = kind == NUMBER ? numberRead() : NONE;
             } else {
                 value = text[at];
                 kind = SIGNS.indexOf((char) value) >= 0 ? SIGN : BAD;
@@ -446,37 +456,21 @@ public final class SoarHouse {
             }
         }
 
-        private void readWord() {
-            while (at < length && isLetter(at)) {
-                at++;
+        /** How many signs from the first to the last one stand next to each other here. */
+        private int runOf(char first, char last) {
+            int behind = at;
+            while (behind < length && text[behind] >= first && text[behind] <= last) {
+                behind++;
             }
-            kind = at - start > LONGEST_WORD ? BAD : WORD;
-            if (kind == WORD) {
-                value = knownWord();
-            }
+            return behind - at;
         }
 
-        private void readNumber() {
-            while (at < length && isDigit(at)) {
-                at++;
-            }
-            if (at - start > LONGEST_NUMBER || at < length && isLetter(at)) {
-                kind = BAD;
-                return;
-            }
-            kind = NUMBER;
-            value = 0;
+        private int numberRead() {
+            int number = 0;
             for (int i = start; i < at; i++) {
-                value = 10 * value + text[i] - '0';
+                number = 10 * number + text[i] - '0';
             }
-        }
-
-        private boolean isLetter(int place) {
-            return text[place] >= 'a' && text[place] <= 'z';
-        }
-
-        private boolean isDigit(int place) {
-            return text[place] >= '0' && text[place] <= '9';
+            return number;
         }
 
         /** The number of the word read among WORDS, or NONE if it may be a name. */
@@ -524,11 +518,6 @@ public final class SoarHouse {
 
         private boolean isWord(int number) {
             return kind == WORD && value == number;
-        }
-
-        private void pass() {
-            takenAt = start;
-            next();
         }
 
         private boolean takeSign(char sign) {
@@ -679,9 +668,10 @@ public final class SoarHouse {
         /** The greatest height for which a cell is not shut. */
         private int ceilingOf(int cell, int moment) {
             int ceiling = MOST_HEIGHT;
-            for (int wall = 0; wall < walls; wall++) {
-                if (wallCell(wall) == cell && wallHas(wall, moment)) {
-                    ceiling = Math.min(ceiling, wallAbove(wall));
+            for (int row = 0; row < walls * WALL_ROW; row += WALL_ROW) {
+                boolean has = moment >= wallRows[row + WALL_FROM] && moment < wallRows[row + WALL_TO];
+                if (has && wallRows[row + WALL_CELL] == cell) {
+                    ceiling = Math.min(ceiling, wallRows[row + WALL_ABOVE]);
                 }
             }
             return ceiling;
@@ -709,25 +699,27 @@ public final class SoarHouse {
                 return NONE;
             }
             int hour = moment / STEPS_PER_HOUR;
+            int toCell = cell;
+            int toMoment = moment + 1;
+            int toHeight = height;
             if (move == 0) {
-                int circled = height + gainOf(glider, cell, hour);
-                int top = topIn(hour);
-                if (circled > top && circled > height) {
-                    circled = Math.max(top, height);
-                }
-                return arrived(cell, moment + 1, circled);
+                toHeight = circled(height, gainOf(glider, cell, hour), topIn(hour));
+            } else {
+                int direction = (move - 1) / SPEEDS;
+                int speed = (move - 1) % SPEEDS;
+                toCell = neighbour(cell, direction);
+                toMoment = moment + SPEEDS - speed;
+                toHeight = height - lossOf(glider, hour, direction, speed);
             }
-            int direction = (move - 1) / SPEEDS;
-            int speed = (move - 1) % SPEEDS;
-            int loss = lossOf(glider, hour, direction, speed);
-            return arrived(neighbour(cell, direction), moment + 3 - speed, height - loss);
-        }
-
-        private int arrived(int cell, int moment, int height) {
-            if (!isPlace(cell, moment, height) || height > ceilingOf(cell, moment)) {
+            if (toCell == NONE || toMoment > STEPS || toHeight < 0 || toHeight > ceilingOf(toCell, toMoment)) {
                 return NONE;
             }
-            return 6400 * height + 100 * moment + cell;
+            return 6400 * toHeight + 100 * toMoment + toCell;
+        }
+
+        private static int circled(int height, int gain, int top) {
+            int higher = height + gain;
+            return higher > top && higher > height ? Math.max(top, height) : higher;
         }
     }
 
@@ -748,29 +740,25 @@ public final class SoarHouse {
             plan.clear();
             tokens.open(bytes);
             for (int i = 0; i < MOST_LINES && tokens.kind != Tokens.END; i++) {
-                if (!readLine() || !tokens.takeSign(';')) {
+                int word = tokens.kind == Tokens.WORD ? tokens.value : NONE;
+                boolean told;
+                switch (word) {
+                    case WORD_ROW: told = readRow(); break;
+                    case WORD_LIFT: told = readLift(); break;
+                    case WORD_WIND: told = readWind(); break;
+                    case WORD_TOP: told = readTop(); break;
+                    case WORD_WALL: told = readWall(); break;
+                    case WORD_FIELD: told = readField(); break;
+                    case WORD_ROAD: told = readRoad(); break;
+                    case WORD_GLIDER: told = readGlider(); break;
+                    default: told = tokens.refuse(FAULT_PLACE); break;
+                }
+                if (!told || !tokens.takeSign(';')) {
                     return false;
                 }
                 plan.lines++;
             }
             return true;
-        }
-
-        private boolean readLine() {
-            if (tokens.kind != Tokens.WORD) {
-                return tokens.refuse(FAULT_PLACE);
-            }
-            switch (tokens.value) {
-                case WORD_ROW: return readRow();
-                case WORD_LIFT: return readLift();
-                case WORD_WIND: return readWind();
-                case WORD_TOP: return readTop();
-                case WORD_WALL: return readWall();
-                case WORD_FIELD: return readField();
-                case WORD_ROAD: return readRoad();
-                case WORD_GLIDER: return readGlider();
-                default: return tokens.refuse(FAULT_PLACE);
-            }
         }
 
         private boolean readRow() {
@@ -978,9 +966,15 @@ public final class SoarHouse {
                 return tokens.refuse(FAULT_TOLD);
             }
             tokens.pass();
-            if (!readSinks(plan.gliders * Plan.GLIDER_ROW)) {
+            int row = plan.gliders * Plan.GLIDER_ROW;
+            if (!readSinks(row)) {
                 return false;
             }
+            int handicap = takeBehind(WORD_HANDICAP, 50, 200);
+            if (handicap == NONE) {
+                return false;
+            }
+            plan.gliderRows[row + Plan.GLIDER_HANDICAP] = handicap;
             plan.names[plan.gliders] = name;
             plan.gliders++;
             return true;
@@ -997,11 +991,6 @@ public final class SoarHouse {
                 }
                 plan.gliderRows[row + i] = sink;
             }
-            int handicap = takeBehind(WORD_HANDICAP, 50, 200);
-            if (handicap == NONE) {
-                return false;
-            }
-            plan.gliderRows[row + Plan.GLIDER_HANDICAP] = handicap;
             return true;
         }
     }
@@ -1327,7 +1316,6 @@ public final class SoarHouse {
             }
             if (flown != NONE) {
                 keepWhatLeadsThere();
-                walk();
             }
         }
 
@@ -1474,7 +1462,7 @@ public final class SoarHouse {
             return heights;
         }
 
-        /** Writes down the way, at each moment by the first move that still leads there. */
+        /** Writes down the way, if there is one, at each moment by the first move that still leads there. */
         private void walk() {
             int t = moment;
             int at = cell;
