@@ -33,7 +33,7 @@ final class Due {
         is("end of a fed text", house.end(before + bytes.length), before + bytes.length);
     }
 
-    private static int four(byte[] bytes, int at) {
+    static int four(byte[] bytes, int at) {
         int value = 0;
         for (int i = at; i < at + 4; i++) {
             value = value << 8 | (i < bytes.length ? bytes[i] & 255 : 32);
