@@ -288,7 +288,13 @@ public final class EdgeLawTest {
                 value(a + "=" + b, a == b ? 1 : 0);
                 value(a + " and " + b, a != 0 && b != 0 ? 1 : 0);
                 value(a + " or " + b, a != 0 || b != 0 ? 1 : 0);
+                value("5+(" + a + "<" + b + ")", 5 + (a < b ? 1 : 0));
+                value("5+(" + a + ">" + b + ")", 5 + (a > b ? 1 : 0));
+                value("5+(" + a + "=" + b + ")", 5 + (a == b ? 1 : 0));
+                value("5+(" + a + " and " + b + ")", 5 + (a != 0 && b != 0 ? 1 : 0));
+                value("5+(" + a + " or " + b + ")", 5 + (a != 0 || b != 0 ? 1 : 0));
             }
+            value("5+(not " + a + ")", 5 + (a == 0 ? 1 : 0));
             value("not " + a, a == 0 ? 1 : 0);
             value("(" + a + ")", a);
         }

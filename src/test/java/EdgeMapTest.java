@@ -13,13 +13,17 @@ public final class EdgeMapTest {
         numbers();
         blanksPartThemOrNot();
         noLetterBehindANumber();
+        everyByteBehindANumber();
         reservedWords();
+        wordsAtTheEndOfTheTape();
+        names();
         everyNumber();
         rowsAndGrounds();
         windsAndHours();
         wallSteps();
         cutShort();
         strangers();
+        leftOutOrDoubled();
         toldTwice();
         atMost();
         theFirstByItsPlace();
@@ -118,6 +122,54 @@ public final class EdgeMapTest {
         Due.mapFault("top 0 1A;", 1, 7);
         good("top 0 1\n;", 1);
         good("top 0 1;top 1 1;", 2);
+    }
+
+    private static void everyByteBehindANumber() {
+        for (int sign = 0; sign < 256; sign++) {
+            String text = "top 0 1" + (char) sign;
+            if (sign >= 'a' && sign <= 'z') {
+                Due.mapFault(text, 1, 6);
+            } else if (sign >= '0' && sign <= '9') {
+                Due.mapFault(text, 2, 8);
+            } else if (sign == ' ' || sign == '\n') {
+                Due.mapFault(text, 2, 8);
+            } else if (sign == ';') {
+                good(text, 1);
+            } else {
+                Due.mapFault(text, "()<>=+-*/".indexOf(sign) >= 0 ? 2 : 1, 7);
+            }
+        }
+    }
+
+    /** A word that is the begin of another one, with no byte behind it. */
+    private static void wordsAtTheEndOfTheTape() {
+        for (String word : "row lift wind top wall above from to field road glider sink handicap score rounded".split(" ")) {
+            for (int length = 1; length <= word.length(); length++) {
+                String part = word.substring(0, length);
+                String text = " ".repeat(1900 - length) + part;
+                boolean line = "row lift wind top wall field road glider".contains(part) && length == word.length();
+                Due.mapFault(text, 2, line && !part.equals("to") ? 1900 : 1900 - length);
+                Due.mapFault(text.substring(1400), 2, line && !part.equals("to") ? 500 : 500 - length);
+            }
+        }
+    }
+
+    /** "a NAME": two that differ by a letter's place or number are two. */
+    private static void names() {
+        String[][] sets = {{"a", "aa", "aaa", "aaaaaaaa"}, {"ab", "ba", "b", "aab"}, {"z", "zz", "az", "za"},
+            {"zzzzzzzz", "zzzzzzza", "azzzzzzz", "zzzzzzz"}, {"abc", "bca", "cab", "acb"}, {"aabb", "abab", "bbaa", "abba"},
+            {"a", "b", "c", "d"}, {"ad", "bc", "cb", "da"}, {"abcdefgh", "abcdefgi", "bbcdefgh", "abcdefg"}};
+        for (String[] set : sets) {
+            StringBuilder text = new StringBuilder();
+            for (String name : set) {
+                text.append("glider ").append(name).append(" sink 1 1 1 1 handicap 100;");
+            }
+            good(text.toString(), 4);
+            for (int i = 0; i < 3; i++) {
+                String three = "glider " + set[i] + " sink 1 1 1 1 handicap 100;glider other sink 1 1 1 1 handicap 100;";
+                Due.mapFault(three + "glider " + set[i] + " sink", 3, three.length() + 7);
+            }
+        }
     }
 
     /** "Words that stand for themselves here and in LAWS .. are no NAMES". */
@@ -295,6 +347,34 @@ public final class EdgeMapTest {
                 }
             }
         }
+    }
+
+    /** Each TOKEN of each line left out, or told twice, or two of them changed about. */
+    private static void leftOutOrDoubled() {
+        for (String line : LINES) {
+            String[] tokens = line.split(" ");
+            Pair pair = new Pair("spoilt " + line);
+            for (int i = 0; i < tokens.length; i++) {
+                StringBuilder without = new StringBuilder();
+                StringBuilder twice = new StringBuilder();
+                StringBuilder about = new StringBuilder();
+                for (int j = 0; j < tokens.length; j++) {
+                    without.append(j == i ? "" : tokens[j]).append(' ');
+                    twice.append(j == i ? tokens[j] + " " : "").append(tokens[j]).append(' ');
+                    about.append(tokens[j == i && i + 1 < tokens.length ? i + 1 : j == i + 1 ? i : j]).append(' ');
+                }
+                for (Object text : new Object[] {without, twice, about}) {
+                    pair.text(text.toString());
+                    pair.map();
+                    pair.fault(0);
+                    pair.fault(1);
+                }
+            }
+            Due.is("not too many calls", pair.left() >= 0, true);
+        }
+        Due.mapFault("glider g handicap 100;", 2, 9);
+        Due.mapFault("glider sink 1 1 1 1 handicap 100;", 2, 7);
+        Due.mapFault("glider g sink 1 1 1 1;", 2, 21);
     }
 
     /** Where any word is a WORD, though one that can't be. */

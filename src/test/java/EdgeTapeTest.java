@@ -15,6 +15,7 @@ public final class EdgeTapeTest {
         aMapOf1900Bytes();
         pilotsFixesAndOutAreNone();
         aMapWithAFaultLeavesAll();
+        nothingIsLeftOfOlderMaps();
         theLawsTape();
         aLawOf500Bytes();
         aLawOfMoreBytes();
@@ -30,7 +31,7 @@ public final class EdgeTapeTest {
 
     private static SoarHouse withBytes(int bytes) {
         SoarHouse house = new SoarHouse();
-        while (house.about(9) < bytes) {
+        for (int i = 0; i < 95 && house.about(9) < bytes; i++) {
             blanks(house);
         }
         house.end(bytes);
@@ -230,6 +231,36 @@ public final class EdgeTapeTest {
             Due.is("score", house.score(1, 7), 44);
             Due.is("pilot", house.pilot(0), 2);
             Due.is("out", house.fetched(), 1);
+        }
+    }
+
+    /** A MAP tells all: nothing of MAPS ahead of it, taken or not, is left in it. */
+    private static void nothingIsLeftOfOlderMaps() {
+        String whole = "row 0 hhhhhhhh; row 7 hhhhhhhh; lift h 9 9 9 9 9 9; lift a 8 8 8 8 8 8; wind 0 w 3; wind 5 e 2; top 0 7;"
+            + "top 3 8; wall 1 1 above 3 from 2 to 4; field 3 3; road 0 0 1 1 5; glider g sink 1 2 3 4 handicap 77;";
+        for (int maps = 1; maps <= 4; maps++) {
+            for (String ahead : new String[] {whole, whole + "?"}) {
+                SoarHouse house = new SoarHouse();
+                for (int i = 0; i < maps; i++) {
+                    Due.is("a whole map", Due.map(house, ahead), ahead.equals(whole) ? 12 : -1);
+                }
+                Due.is("the same again", Due.map(house, whole), 12);
+                Due.map(house, ahead);
+                Due.is("a small one", Due.map(house, "top 4 9;"), 1);
+                for (int what = 0; what < 4; what++) {
+                    Due.is("about " + what, house.about(what), 0);
+                }
+                for (int hour = 0; hour < 6; hour++) {
+                    Due.is("lift", house.lift(0, hour), 0);
+                    Due.is("lift", house.lift(63, hour), 0);
+                    Due.is("lift", house.lift(27, hour), 0);
+                    Due.is("wind", house.wind(hour), 0);
+                    Due.is("top", house.top(hour), hour < 4 ? 40 : 9);
+                }
+                Due.is("wall", house.shut(9, 3, 40), 0);
+                Due.is("road", house.minutes(0, 9), -1);
+                Due.is("all can be told again", Due.map(house, whole), 12);
+            }
         }
     }
 

@@ -24,6 +24,8 @@ public final class EdgeTraceTest {
         mostByTheZone();
         noMoreThanOneThere();
         behindTheLastFix();
+        onePilotBehindAnother();
+        afixInEachStep();
         theTime();
         theDone();
         doneOfTheNextLeg();
@@ -415,6 +417,54 @@ public final class EdgeTraceTest {
         rounded(none, 0, 0);
         fixes(none, 35, 1);
         rounded(none, 0, 0);
+    }
+
+    /** Of a pilot with few FIXES nothing of one with more, who was looked at just before. */
+    private static void onePilotBehindAnother() {
+        SoarHouse house = Due.on(GLIDER + "wall 2 0 above 0 from 0 to 36;");
+        house.pilot(0);
+        house.pilot(0);
+        house.task(2, -1, -1, 7);
+        for (int i = 0; i < 8; i++) {
+            house.fix(0, 4 * i, i, 0);
+        }
+        house.fix(1, 0, 0, 0);
+        house.fix(1, 1, 1, 0);
+        house.fix(1, 2, 0, 0);
+        for (int i = 0; i < 2; i++) {
+            Due.is("most of the first", house.rounded(0, true, 0), 2);
+            Due.is("most of the second", house.rounded(1, true, 0), 0);
+            Due.is("walls of the first", house.flown(0, 4, 0), 1);
+            Due.is("walls of the second", house.flown(1, 4, 0), 0);
+            Due.is("done by the first", house.flown(0, 0, 0), 7);
+            Due.is("done by the second", house.flown(1, 0, 0), 1);
+            Due.is("legs of the first", house.flown(0, 1, 0), 7);
+            Due.is("legs of the second", house.flown(1, 1, 0), 7);
+            Due.is("time of the first", house.flown(0, 2, 0), 28);
+            Due.is("time of the second", house.flown(1, 2, 0), 0);
+            Due.is("least of the first", house.rounded(0, false, 0), 2);
+            Due.is("none as known before", house.rounded(0, true, -1), 0);
+            Due.is("nor done", house.flown(0, 0, -1), 0);
+            Due.is("nor walls", house.flown(0, 4, -1), 0);
+        }
+    }
+
+    /** A FIX in each STEP of the day, and no time between them. */
+    private static void afixInEachStep() {
+        SoarHouse house = Due.on(GLIDER + "wall 0 0 above 0 from 0 to 36; wall 1 0 above 40 from 0 to 36;");
+        house.pilot(0);
+        house.task(1, -1, -1, 63);
+        for (int step = 0; step < 36; step++) {
+            house.fix(0, step, 0, 0);
+        }
+        rounded(house, 0, 0);
+        entered(house, 0, 0);
+        flown(house, 0, 1 + 7, 0);
+        house.fix(0, 35, 1, 1);
+        rounded(house, 1, 1);
+        house.untell(34);
+        rounded(house, 1, 1);
+        entered(house, 0, 1 + 2);
     }
 
     /** "the STEP of the last of these FIXES less that of the first FIX"; "(0 if not all were ROUNDED)". */

@@ -88,6 +88,12 @@ public final class EdgeTrailerTest {
         Due.is("no road at all", house.minutes(0, 4), -1);
         Due.is("to itself", house.minutes(4, 4), 0);
         Due.is("to itself, with roads", house.minutes(0, 0), 0);
+        for (String text : new String[] {"road 0 0 1 0 5; road 0 0 1 0 9;", "road 0 0 1 0 9; road 0 0 1 0 5;",
+            "road 1 0 0 0 5; road 0 0 1 0 9;", "road 1 0 0 0 9; road 0 0 1 0 5;"}) {
+            SoarHouse two = Due.on(text);
+            Due.is("the shorter one", two.minutes(0, 1), 5);
+            Due.is("the shorter one back", two.minutes(1, 0), 5);
+        }
         SoarHouse round = Due.on("road 0 0 1 0 40; road 0 0 2 0 20; road 2 0 1 0 19;");
         Due.is("shorter round", round.minutes(0, 1), 39);
         Due.is("shorter round, back", round.minutes(1, 0), 39);

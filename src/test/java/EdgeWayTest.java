@@ -20,6 +20,12 @@ public final class EdgeWayTest {
         oneIsNone();
         theKthMove();
         theWholeDay();
+        inTheHoursOfTheDay();
+        upToTheTopAndNoMore();
+        slowOnesOnTheWay();
+        inTheLastCell();
+        noWaitingAtTheEdge();
+        oneQuestionBehindAnother();
         theZoneIsOfTracesAlone();
         safeWithNoMoves();
         safeByGlidingAlone();
@@ -290,6 +296,137 @@ public final class EdgeWayTest {
         Due.is("move 36", house.way(0, 0, 0, 0, 36, 36), -1);
         Due.is("a step too many", house.soonest(0, 0, 0, 0, 37), -1);
         Due.is("a step less", house.soonest(0, 0, 0, 0, 35), 35);
+    }
+
+    /** "MOVES, in the HOUR of the STEP in which they begin", on a way through the day. */
+    private static void inTheHoursOfTheDay() {
+        SoarHouse house = Due.on("lift a 0 0 5 0 0 1; glider g sink 0 30 30 30 handicap 100;");
+        house.task(-1, -1, -1, 0);
+        for (int finish = 1; finish <= 30; finish++) {
+            Due.is("rising in the third hour to " + finish, house.soonest(0, 0, 0, 0, finish), 12 + (finish + 4) / 5);
+        }
+        Due.is("and in the last", house.soonest(0, 0, 0, 0, 31), 31);
+        Due.is("to its end", house.soonest(0, 0, 0, 0, 36), 36);
+        Due.is("no more", house.soonest(0, 0, 0, 0, 37), -1);
+        Due.is("from the third on", house.soonest(0, 0, 17, 0, 5), 18);
+        Due.is("too late for it", house.soonest(0, 0, 18, 0, 5), 35);
+        SoarHouse windy = Due.on("wind 0 w 2; wind 2 e 2; wind 3 w 3; glider g sink 0 30 30 2 handicap 100;");
+        windy.task(-1, -1, -1, 3);
+        ways(windy, from(0, 0, 12, 0), 3, 9, 9, 9);
+        ways(windy, from(0, 0, 11, 0), 13, 0, 0, 0, 0, 0, 0, 0, 0, 0, 0, 9, 9, 9);
+        ways(windy, from(0, 9, 9, 9), 15, 0, 0, 0, 9, 9, 9);
+        ways(windy, from(0, 16, 5, 0), 19, 9, 9, 9);
+        ways(windy, from(0, 16, 4, 0), -1);
+        ways(windy, from(0, 18, 14, 0), -1);
+        ways(windy, from(0, 18, 15, 0), 21, 9, 9, 9);
+    }
+
+    /** "if that is above the top, and above the height it had, it is the greater one of top and that height". */
+    private static void upToTheTopAndNoMore() {
+        SoarHouse house = Due.on("lift a 3 3 3 3 3 3; top 0 5; top 1 9; glider g sink 0 1 1 1 handicap 100;");
+        house.task(-1, -1, -1, 0);
+        for (int height = 0; height <= 5; height++) {
+            int steps = height >= 5 ? 0 : height >= 2 ? 1 : 2;
+            Due.is("to the top from " + height, house.soonest(0, 0, 0, height, 5), steps);
+            Due.is("above it in the next hour from " + height, house.soonest(0, 0, 0, height, 6), 7);
+        }
+        Due.is("to the next top", house.soonest(0, 0, 0, 0, 9), 8);
+        Due.is("not above it", house.soonest(0, 0, 0, 0, 10), -1);
+        Due.is("from above it", house.soonest(0, 0, 0, 10, 10), 0);
+        house.task(1, -1, -1, 0);
+        ways(house, from(0, 0, 3, 4), 3, 9, 0, 21);
+        ways(house, from(0, 0, 3, 3), 3, 0, 9, 21);
+        ways(house, from(0, 0, 4, 5), 3, 9, 21, 0);
+        ways(house, from(0, 0, 10, 8), 2, 9, 21);
+        ways(house, from(0, 0, 10, 9), 7, 0, 0, 0, 0, 9, 21, 0);
+        SoarHouse walled = Due.on("lift a 9 9 9 9 9 9; top 0 5; wall 1 0 above 0 from 0 to 36; wall 0 1 above 0 from 0 to 36;"
+            + "wall 1 1 above 0 from 0 to 36; glider g sink 0 0 0 0 handicap 100;");
+        walled.task(-1, -1, -1, 1);
+        ways(walled, from(0, 0, 0, 0), 1, 9);
+        Due.is("not beneath a wall by rising", walled.soonest(0, 0, 0, 1, 0), 36);
+    }
+
+    /** A slow or middling MOVE that is not the first one. */
+    private static void slowOnesOnTheWay() {
+        SoarHouse house = Due.on("glider g sink 30 1 3 9 handicap 100;");
+        house.task(-1, -1, -1, 3);
+        ways(house, from(0, 0, 27, 0), 3, 9, 9, 9);
+        ways(house, from(0, 0, 26, 0), 4, 8, 9, 9);
+        ways(house, from(0, 0, 20, 0), 5, 7, 9, 9);
+        ways(house, from(0, 0, 18, 0), 5, 8, 8, 9);
+        ways(house, from(0, 0, 14, 0), 6, 7, 8, 9);
+        ways(house, from(0, 0, 10, 0), 6, 8, 8, 8);
+        ways(house, from(0, 0, 8, 0), 7, 7, 8, 8);
+        ways(house, from(0, 0, 6, 0), 8, 7, 7, 8);
+        ways(house, from(0, 0, 4, 0), 9, 7, 7, 7);
+        ways(house, from(0, 0, 2, 0), -1);
+        SoarHouse twice = Due.on("row 0 baaaaaaa; lift b 20 20 20 20 20 20; glider g sink 0 0 30 30 handicap 100;");
+        twice.task(1, -1, -1, 0);
+        ways(twice, from(0, 0, 0, 0), 6, 0, 0, 7, 21);
+    }
+
+    /** The last CELL, moment and height. */
+    private static void inTheLastCell() {
+        SoarHouse house = Due.on(STILL);
+        house.task(-1, -1, -1, 63);
+        ways(house, from(62, 35, 40, 40), 36, 9);
+        ways(house, from(61, 34, 40, 40), 36, 6, 12);
+        ways(house, from(0, 29, 40, 40), 36, 12, 12, 12, 12, 12, 12, 12);
+        house.task(63, 62, -1, 63);
+        ways(house, from(62, 33, 40, 40), 36, 9, 21, 9);
+        house.task(63, 62, 63, 62);
+        ways(house, from(63, 33, 40, 37), 36, 21, 9, 21);
+        ways(house, from(63, 33, 37, 37), 36, 21, 9, 21);
+        house.task(-1, -1, -1, 56);
+        ways(house, from(57, 35, 40, 40), 36, 21);
+    }
+
+    /** Who glides over the edge ends in no CELL, so nobody waits by that. */
+    private static void noWaitingAtTheEdge() {
+        int[] corners = {0, 7, 56, 63};
+        for (int corner : corners) {
+            int x = corner % 8;
+            int y = corner / 8;
+            int besideX = x == 0 ? 1 : 6;
+            int besideY = y == 0 ? 1 : 6;
+            String wall = " above 0 from 0 to 10;";
+            SoarHouse house = Due.on("wall " + besideX + " " + y + wall + "wall " + x + " " + besideY + wall + "wall " + besideX
+                + " " + besideY + wall + "field " + besideX + " " + y + "; glider g sink 30 0 0 0 handicap 100;");
+            house.task(-1, -1, -1, 8 * y + besideX);
+            for (int moment = 0; moment < 12; moment++) {
+                int soonest = moment < 7 ? -1 : moment < 9 ? 10 : moment + 1;
+                Due.is("from " + corner + " at " + moment, house.soonest(0, corner, moment, 5, 0), soonest);
+                Due.is("safe from " + corner + " at " + moment, house.safe(0, corner, moment, 5), moment < 7 ? 0 : 1);
+            }
+        }
+    }
+
+    /** Each question is answered by what was asked for then: the TASK, the MAP, the glider and all else. */
+    private static void oneQuestionBehindAnother() {
+        SoarHouse house = Due.on("glider g sink 0 0 0 3 handicap 100; glider h sink 0 0 0 0 handicap 100;");
+        house.task(-1, -1, -1, 2);
+        Due.is("first", house.soonest(0, 0, 0, 6, 0), 2);
+        Due.is("another glider", house.soonest(1, 0, 0, 6, 6), 2);
+        Due.is("that glider not so", house.soonest(0, 0, 0, 6, 6), 4);
+        Due.is("the other way", house.way(1, 0, 0, 6, 6, 0), 9);
+        Due.is("that way", house.way(0, 0, 0, 6, 6, 0), 8);
+        Due.is("another cell", house.soonest(0, 1, 0, 6, 6), 2);
+        Due.is("another moment", house.soonest(0, 1, 1, 6, 6), 3);
+        Due.is("another height", house.soonest(0, 1, 1, 9, 6), 2);
+        Due.is("another finish", house.soonest(0, 1, 1, 9, 7), 3);
+        house.task(-1, -1, -1, 3);
+        Due.is("another task", house.soonest(0, 1, 1, 9, 7), 5);
+        Due.is("a refused task", house.task(-1, -1, -1, 64), false);
+        Due.is("none behind it", house.soonest(0, 1, 1, 9, 7), 5);
+        Due.is("a refused question", house.soonest(2, 1, 1, 9, 7), -1);
+        Due.is("as ahead of it", house.soonest(0, 1, 1, 9, 7), 5);
+        Due.is("safe between them", house.safe(0, 1, 1, 9), 0);
+        Due.is("as ahead of that", house.way(0, 1, 1, 9, 7, 1), 8);
+        Due.map(house, "glider g sink 0 9 9 0 handicap 100;");
+        Due.is("another map", house.soonest(0, 1, 1, 9, 7), 3);
+        Due.is("its way", house.way(0, 1, 1, 9, 7, 0), 9);
+        Due.map(house, "");
+        Due.is("without gliders", house.soonest(0, 1, 1, 9, 7), -1);
     }
 
     private static void theZoneIsOfTracesAlone() {

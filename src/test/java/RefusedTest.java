@@ -223,7 +223,7 @@ public final class RefusedTest {
         alike("untell what is untold", state, 0, house -> bit(house.untell(199)));
         State tape = () -> {
             SoarHouse house = busy();
-            while (house.about(9) <= 1880) {
+            for (int i = 0; i < 95 && house.about(9) <= 1880; i++) {
                 house.feed(0x20202020, 0x20202020, 0x20202020, 0x20202020, 0x20202020);
             }
             return house;
