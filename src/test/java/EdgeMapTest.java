@@ -165,6 +165,12 @@ public final class EdgeMapTest {
                 text.append("glider ").append(name).append(" sink 1 1 1 1 handicap 100;");
             }
             good(text.toString(), 4);
+            Due.mapFault("glider " + set[0] + "\nsink 1 1 1 1 handicap 100;glider " + set[0] + " sink 1 1 1 1 handicap 100;", 3,
+                41 + set[0].length());
+            String last = "glider " + set[0] + " sink 1 1 1 1 handicap 100;";
+            Due.mapFault(last + " ".repeat(1900 - last.length() - 7 - set[1].length()) + "glider " + set[1], 2, 1900);
+            Due.mapFault(last + " ".repeat(1900 - last.length() - 7 - set[0].length()) + "glider " + set[0], 3,
+                1900 - set[0].length());
             for (int i = 0; i < 3; i++) {
                 String three = "glider " + set[i] + " sink 1 1 1 1 handicap 100;glider other sink 1 1 1 1 handicap 100;";
                 Due.mapFault(three + "glider " + set[i] + " sink", 3, three.length() + 7);

@@ -246,7 +246,7 @@ public final class EdgeTapeTest {
                 }
                 Due.is("the same again", Due.map(house, whole), 12);
                 Due.map(house, ahead);
-                Due.is("a small one", Due.map(house, "top 4 9;"), 1);
+                Due.is("a small one", Due.map(house, "top 4 9; lift h 6 6 6 6 6 6;"), 2);
                 for (int what = 0; what < 4; what++) {
                     Due.is("about " + what, house.about(what), 0);
                 }

@@ -22,6 +22,7 @@ public final class EdgeWayTest {
         theWholeDay();
         inTheHoursOfTheDay();
         upToTheTopAndNoMore();
+        fromBelowTheTop();
         slowOnesOnTheWay();
         inTheLastCell();
         noWaitingAtTheEdge();
@@ -344,6 +345,29 @@ public final class EdgeWayTest {
         walled.task(-1, -1, -1, 1);
         ways(walled, from(0, 0, 0, 0), 1, 9);
         Due.is("not beneath a wall by rising", walled.soonest(0, 0, 0, 1, 0), 36);
+        SoarHouse open = Due.on("lift a 1 1 1 1 1 1; wall 1 0 above 0 from 0 to 36; glider g sink 0 0 0 0 handicap 100;");
+        open.task(-1, -1, -1, 1);
+        Due.is("nor by rising slowly", open.soonest(0, 0, 0, 1, 0), 36);
+        Due.is("nor by staying", open.soonest(0, 7, 3, 40, 0), 36);
+    }
+
+    /** On a way that circling ends: those heights lead to the top from which it is come to in one STEP, no other. */
+    private static void fromBelowTheTop() {
+        SoarHouse house = Due.on("lift a 3 3 3 3 3 3; top 0 5; glider g sink 0 1 1 1 handicap 100;");
+        house.task(-1, -1, -1, 0);
+        ways(house, from(1, 0, 3, 5), 2, 21, 0);
+        ways(house, from(1, 0, 4, 5), 2, 21, 0);
+        ways(house, from(1, 0, 5, 5), 2, 21, 0);
+        ways(house, from(1, 0, 2, 5), 3, 0, 21, 0);
+        StringBuilder text = new StringBuilder("row 0 abbbbbbb;");
+        for (int y = 1; y < 8; y++) {
+            text.append("row ").append(y).append(" bbbbbbbb;");
+        }
+        text.append("lift a 4 4 4 4 4 4; top 0 5; wall 0 0 above 0 from 0 to 3; glider g sink 1 1 2 1 handicap 100;");
+        SoarHouse waiting = Due.on(text.toString());
+        waiting.task(-1, -1, -1, 0);
+        ways(waiting, from(1, 0, 4, 5), 4, 19, 0);
+        ways(waiting, from(1, 0, 5, 5), 4, 0, 0, 21, 0);
     }
 
     /** A slow or middling MOVE that is not the first one. */
@@ -421,6 +445,12 @@ public final class EdgeWayTest {
         Due.is("a refused question", house.soonest(2, 1, 1, 9, 7), -1);
         Due.is("as ahead of it", house.soonest(0, 1, 1, 9, 7), 5);
         Due.is("safe between them", house.safe(0, 1, 1, 9), 0);
+        Due.is("asked like that", house.soonest(0, 1, 1, 9, 0), 3);
+        Due.is("and not so", house.soonest(0, 1, 1, 9, 7), 5);
+        Due.is("safe from elsewhere", house.safe(0, 2, 1, 9), 0);
+        Due.is("soonest from there", house.soonest(0, 2, 1, 9, 0), 2);
+        Due.is("and back", house.soonest(0, 1, 1, 9, 7), 5);
+        Due.is("safe once more", house.safe(0, 63, 36, 0), 0);
         Due.is("as ahead of that", house.way(0, 1, 1, 9, 7, 1), 8);
         Due.map(house, "glider g sink 0 9 9 0 handicap 100;");
         Due.is("another map", house.soonest(0, 1, 1, 9, 7), 3);
