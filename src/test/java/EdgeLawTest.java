@@ -22,6 +22,7 @@ public final class EdgeLawTest {
         ofWhatIsNot0();
         atLeast0();
         withoutALaw();
+        oneLawBehindAnother();
         whatItAsks();
         bestAndFirst();
         asKnownAtK();
@@ -337,6 +338,23 @@ public final class EdgeLawTest {
         Due.is("score", house.score(0, 0), 0);
         Due.is("a law", Due.law(house, "score 5;"), 1);
         Due.is("score", house.score(0, 0), 5);
+    }
+
+    /** Nothing of LAWS ahead of it, taken or not, is left in a LAW. */
+    private static void oneLawBehindAnother() {
+        SoarHouse house = alone();
+        String[] laws = {"1+2*3-4 and not 5 or 6", "7", "not 0", "8+1", "(9)", "1<2", "5", "5-1", "3*2*1"};
+        int[] values = {1, 7, 1, 9, 9, 1, 5, 4, 6};
+        for (int round = 0; round < 3; round++) {
+            for (int i = 0; i < laws.length; i++) {
+                Due.is("law " + laws[i], Due.law(house, "score " + laws[i] + ";"), 1);
+                Due.is("score by " + laws[i], house.score(0, 0), values[i]);
+                if (round == 1) {
+                    Due.is("a longer one with a fault", Due.law(house, "score 2+2+2+2+2+2+2+2+2+2+2+2+2+2+2"), -1);
+                    Due.is("score by " + laws[i] + " still", house.score(0, 0), values[i]);
+                }
+            }
+        }
     }
 
     private static SoarHouse busy() {

@@ -31,6 +31,7 @@ public final class EdgeWayTest {
         safeWithNoMoves();
         safeByGlidingAlone();
         safeInAllFields();
+        safeWhateverTheTask();
         safeIsNone();
         Due.close();
     }
@@ -512,6 +513,19 @@ public final class EdgeWayTest {
         Due.is("one", house.safe(0, 27, 36, 0), 1);
         SoarHouse none = Due.on(STILL);
         Due.is("no fields", none.safe(0, 0, 0, 40), 0);
+    }
+
+    private static void safeWhateverTheTask() {
+        SoarHouse house = Due.on("field 0 0; field 3 0; field 7 7;" + STILL);
+        Due.is("without a task", house.safe(0, 0, 33, 0), 2);
+        int[][] tasks = {{0, -1, -1, 0}, {0, 1, 2, 3}, {3, 2, 1, 0}, {0, 0, 0, 0}, {-1, -1, -1, 3}, {63, 63, 63, 63}};
+        for (int[] t : tasks) {
+            house.task(t[0], t[1], t[2], t[3]);
+            Due.is("with a task", house.safe(0, 0, 33, 0), 2);
+            house.soonest(0, 0, 0, 0, 0);
+            Due.is("behind soonest", house.safe(0, 0, 33, 0), 2);
+            Due.is("one", house.safe(0, 63, 33, 0), 1);
+        }
     }
 
     /** "NONE if one is none, or it is shut where it begins"; a TASK is not asked for. */

@@ -30,6 +30,8 @@ final class PlainHouse {
     private List<Fix> fixes = new ArrayList<>();
     private int time;
     private List<Integer> out = new ArrayList<>();
+    // Only to be quicker: the states of the latest question, while it is of the same glider, task, map and finish.
+    private Search search;
 
     private static final class Fault extends RuntimeException {
         private static final long serialVersionUID = 1;
@@ -526,12 +528,18 @@ final class PlainHouse {
     /** The soonest moments by state, found once each. */
     private final class Search {
         private final byte[] found = new byte[4 * 6400 * 41];
+        private final Land over = land;
+        private final List<Integer> task = points;
         private final int glider;
         private final int finish;
 
         private Search(int glider, int finish) {
             this.glider = glider;
             this.finish = finish;
+        }
+
+        private boolean isOf(int glider, int finish) {
+            return over == land && task == points && this.glider == glider && this.finish == finish;
         }
 
         private int soonest(int stage, int state) {
@@ -564,7 +572,9 @@ final class PlainHouse {
             || shut(cell, moment, height) != 0) {
             return null;
         }
-        Search search = new Search(glider, finish);
+        if (search == null || !search.isOf(glider, finish)) {
+            search = new Search(glider, finish);
+        }
         int state = 6400 * height + 100 * moment + cell;
         int stage = stage(cell, 0);
         int due = search.soonest(stage, state);

@@ -17,7 +17,7 @@ public final class PlainRunsTest {
     }
 
     public static void main(String[] args) {
-        for (int seed = 0; seed < 300; seed++) {
+        for (int seed = 0; seed < 200; seed++) {
             new PlainRunsTest(seed).run(seed % 10);
         }
         for (int seed = 1000; seed < 1100; seed++) {
